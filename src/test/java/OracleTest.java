@@ -16,7 +16,7 @@ public final class OracleTest {
     }
 
     public static void main(String[] args) {
-        int runs = args.length > 0 ? Integer.parseInt(args[0]) : 700;
+        int runs = args.length > 0 ? Integer.parseInt(args[0]) : 8000;
         long first = args.length > 1 ? Long.parseLong(args[1]) : 1;
         for (int run = 0; run < runs && Due.wrongSoFar() < 5; run++) {
             new OracleTest(first + run).runOnce(first + run);
@@ -63,9 +63,15 @@ public final class OracleTest {
         return random.nextInt(150) == 0 ? high + 1 + random.nextInt(45) : low + random.nextInt(high - low + 1);
     }
 
+    /** In a crowd all lies near the middle, so that places meet, stand in line and touch more often. */
+    private int place(boolean isCrowd) {
+        return isCrowd ? 27 + random.nextInt(7) : number(0, 60);
+    }
+
     private String sheetText() {
+        boolean isCrowd = random.nextInt(3) == 0;
         StringBuilder s = new StringBuilder();
-        s.append('h').append(number(0, 12)).append(',').append(number(0, 60)).append(',').append(number(0, 60));
+        s.append('h').append(number(0, 12)).append(',').append(place(isCrowd)).append(',').append(place(isCrowd));
         s.append(";t").append(number(0, 20));
         for (int more = random.nextInt(random.nextInt(10) == 0 ? 7 : 6); more > 0; more--) {
             s.append(',').append(number(0, 20));
@@ -74,9 +80,9 @@ public final class OracleTest {
         int things = random.nextInt(random.nextInt(10) == 0 ? 10 : 9);
         for (int i = 0; i < things; i++) {
             s.append("bbblllluuusrk".charAt(random.nextInt(13)));
-            boolean isShort = random.nextInt(3) > 0;
-            s.append(isShort ? number(0, 9) : number(0, 60)).append(',').append(number(0, 60)).append(',');
-            s.append(number(0, 15)).append(',').append(number(0, 20)).append(';');
+            boolean isShort = !isCrowd && random.nextInt(3) > 0;
+            s.append(isShort ? number(0, 9) : place(isCrowd)).append(',').append(place(isCrowd)).append(',');
+            s.append(number(0, isCrowd ? 3 : 15)).append(',').append(number(0, 20)).append(';');
         }
         int legs = 1 + random.nextInt(random.nextInt(10) == 0 ? 7 : 5);
         int top = Math.max(0, Math.min(7, things - (random.nextInt(8) == 0 ? 0 : 1)));

@@ -155,7 +155,8 @@ public final class PromisesTest {
             "h3,10,10^,", "h3,10,10^g", ship + "^", ship + "^z", ship + "t^;", ship + "t^444",
             ship + "t1,2,3,4,5,6^,7;z0,0;g0m1;", ship + "t1,2,3,4,5,6^g", ship + "t1,^;", ship + "t4;^t4;",
             ship + "t4;z3^;", ship + "t4;z3,4^,", head + "^", head + "^q", head + "^z", head + "b1,2,3^;",
-            head + "b1,2,3,4^,", head + "b^b", head + thing + "^", head + "g0^;", head + "g0^x1;", head + "g0m^;",
+            head + "b1,2,3,4^,", head + "b1^g0m1;", head + "b1^b2,3,4,5;g0m1;", head + "b1,2,3,4^g0m1;",
+            head + "b^b", head + thing + "^", head + "g0^;", head + "g0^x1;", head + "g0m^;",
             head + "g0m1^,", head + "g0i1^;", head + "g0i1,^;", head + "g0a1^,1;", head + "g0m1;^b1,2,3,4;",
             head + "g0m1;^ ", head + "g0m1;^m", head + "g0m^100;", head + "g^m1;", head + "g0m1;g0m1^", "h3^ ,1,1;",
             "h3^\u00e9", "^\u0000", head + "g0^M1;", "h^-1"}) {
@@ -484,6 +485,7 @@ public final class PromisesTest {
                     int isIn = width == 0 || turned < width ? 1 : 0;
                     int next = (c + 1) % 16;
                     due("on " + from + " " + b + " " + c, x.seen(0, 30 + 5 * east[c], 30 + 5 * north[c], 0), isIn);
+                    due("next to " + from + " " + b + " " + c, x.seen(0, 30 + east[c], 30 + north[c], 0), isIn);
                     due("past " + from + " " + b + " " + c,
                         x.seen(0, 30 + 4 * east[c] + east[next], 30 + 4 * north[c] + north[next], 0), isIn);
                     due("ahead " + from + " " + b + " " + c,
@@ -589,6 +591,10 @@ public final class PromisesTest {
             due("east by " + c, x.track(0, 1, 0), 10 + east[c]);
             due("north by " + c, x.track(0, 1, 1), 10 + north[c]);
         }
+        x = Due.told("h0,0,0;t0;z0,0;g4m60;g12m60;g4m60;g12m60;g4m60;g12m60;");
+        due("the last minute that can be", x.track(0, 360, 2) * 100 + x.track(0, 360, 0), 500);
+        due("not more", x.track(0, 361, 0), NONE);
+        due("ahead of it", x.track(0, 359, 0), 1);
         x = Due.told("h0,59,30;t0;z0,0;g3m9;");
         due("where she is off", x.track(0, 1, 0) * 100 + x.track(0, 1, 1), 6131);
         due("not more", x.track(0, 2, 0), NONE);
@@ -605,6 +611,10 @@ public final class PromisesTest {
         causes("1:0 2:2 3:2", Due.told("h0,30,1;t0;z0,0;g8m9;"), 0);
         causes("1:0 2:2 3:3", Due.told("h0,30,59;t0;z0,0;g0m9;"), 0);
         causes("1:0 2:1 3:0", Due.told("h0,0,0;t0;z0,0;g11m1;"), 0);
+        causes("1:0 2:1 3:2", Due.told("h0,0,0;t0;z0,0;g8m1;"), 0);
+        causes("1:0 2:1 3:2", Due.told("h0,60,0;t0;z0,0;g8m1;"), 0);
+        causes("1:0 2:1 3:3", Due.told("h0,0,60;t0;z0,0;g0m1;"), 0);
+        causes("1:0 2:1 3:3", Due.told("h0,60,60;t0;z0,0;g0m1;"), 0);
         causes("1:0 2:1 3:1", Due.told("h0,60,60;t0;z0,0;g3m1;"), 0);
         causes("1:1 2:7 3:0", Due.told("h0,1,30;t0;z0,0;g0m5;g12m9;"), 0);
         SailingDirections x = Due.told(SMALL);
@@ -728,8 +738,24 @@ public final class PromisesTest {
         due("one and the same is in line", x.sail(0, 0), 1);
         x = Due.told("h0,21,10;t0;z20,10;b21,20,0,0;b21,25,0,0;g4i0,1;");
         due("in line as it began is none", x.sail(0, 0), 40);
+        x.until(0, 2, 1, 0);
+        due("nor is it the other way", x.sail(0, 0), 40);
+        x = Due.told("h0,30,30;t0;z30,30;b30,31,0,0;b31,32,0,0;g4i0,1;");
+        due("S is 1 less than 0, and was 1 less", x.sail(0, 0), 31);
+        x.steer(0, 12);
+        due("S is 0", x.sail(0, 0), 1);
+        x.steer(0, 11);
+        due("S was 1 less than 0 and is 2 more", x.sail(0, 0), 1);
+        x.until(0, 2, 1, 0);
+        due("S was 1 more than 0 and is 2 less", x.sail(0, 0), 1);
+        x = Due.told("h0,30,30;t0;z30,30;b29,31,0,0;b29,32,0,0;g13i0,1;");
+        due("S was 1 less than 0 and is 1 more", x.sail(0, 0), 1);
+        x.until(0, 2, 1, 0);
+        due("S was 1 more than 0 and is 1 less", x.sail(0, 0), 1);
         x = Due.told("h0,30,30;t0,20;z30,30;u29,40,0,0;b30,38,0,0;g0i0,1;g8m1;");
         due("a buoy comes in line", x.sail(0, 0), 3);
+        x = Due.told("h0,30,20;t0,20;z30,30;u28,40,0,0;b30,38,0,0;g0m11;g0i0,1;");
+        due("a buoy is where the tide has it as the leg begins", x.sail(0, 0), 15);
     }
 
     private static void untilsLight() {
@@ -889,6 +915,13 @@ public final class PromisesTest {
         due("a shoal is no mark", x.out(0, 1, 1), 1);
         x.until(3, 1, 7, 0);
         due("nor is what there is not", x.out(0, 1, 0), 0);
+        x.become(0, 4);
+        x.until(0, 2, 0, 1);
+        x.until(3, 2, 5, 6);
+        x.become(6, 1);
+        due("six marks and a shoal", x.out(0, 1, 0), 0);
+        due("told anew", Due.read(x, "h5,30,30;t0;z30,31;b30,30,0,0;b0,0,0,0;b0,0,0,0;b0,0,0,0;g0a0;"), 1);
+        due("by the legs that there are", x.out(0, 1, 1), 10);
     }
 
     // 33
