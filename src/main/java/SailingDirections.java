@@ -262,7 +262,7 @@ public final class SailingDirections {
         if (!isStart(t) || !isWithin(what, 0, 6)) {
             return BAD;
         }
-        voyage.make(t, sheet.shipCell(Sheet.DRAUGHT), 0, NO_LEG, 0);
+        makeVoyage(t);
         switch (what) {
             case 0: return voyage.minutes;
             case 1: return voyage.x;
@@ -281,7 +281,7 @@ public final class SailingDirections {
         if (!isStart(t) || k < 0 || !isWithin(what, 0, 2)) {
             return BAD;
         }
-        voyage.make(t, sheet.shipCell(Sheet.DRAUGHT), 0, NO_LEG, 0);
+        makeVoyage(t);
         return voyage.trackCell(k, what);
     }
 
@@ -292,7 +292,7 @@ public final class SailingDirections {
         if (!isStart(t) || i < 0 || !isWithin(what, 0, 1)) {
             return BAD;
         }
-        voyage.make(t, sheet.shipCell(Sheet.DRAUGHT), 0, NO_LEG, 0);
+        makeVoyage(t);
         account.findCauses();
         return what == 0 ? account.kindOf(i) : account.numberOf(i);
     }
@@ -304,7 +304,7 @@ public final class SailingDirections {
         if (!isStart(t) || i < 0) {
             return BAD;
         }
-        voyage.make(t, sheet.shipCell(Sheet.DRAUGHT), 0, NO_LEG, 0);
+        makeVoyage(t);
         account.findCauses();
         account.writeLog();
         return account.signAt(i);
@@ -412,6 +412,10 @@ public final class SailingDirections {
             case 6: return tape.size();
             default: return BAD;
         }
+    }
+
+    private void makeVoyage(int t) {
+        voyage.make(t, sheet.shipCell(Sheet.DRAUGHT), 0, NO_LEG, 0);
     }
 
     private Sheet imageOf(int k) {

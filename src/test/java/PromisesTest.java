@@ -647,6 +647,10 @@ public final class PromisesTest {
         causes("1:0 2:2 4:0 6:1", x, 0);
         x = Due.told("h9,30,30;t0;z30,40;b30,31,2,0;s30,32,1,5;k30,32,1,5;r30,32,0,2;g0m10;");
         causes("1:0 2:1 4:1 7:4", x, 0);
+        Due.read(x, "h9,30,30;t0,20;z30,40;s30,31,0,5;g0m10;");
+        causes("1:0 2:1 4:0 6:2", x, 0);
+        Due.read(x, "h9,30,30;t2;z30,40;s30,31,0,5;g0m10;");
+        causes("1:0 2:1 4:0 7:2", x, 0);
     }
 
     private static void whyOverdue() {
