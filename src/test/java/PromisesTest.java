@@ -51,6 +51,7 @@ public final class PromisesTest {
         out();
         drawn();
         images();
+        imagesStay();
         count();
         Due.finish("PromisesTest");
     }
@@ -955,7 +956,7 @@ public final class PromisesTest {
     // 34, 35
     private static void images() {
         SailingDirections x = Due.told(RICH);
-        String rich = cells(x);
+        String rich = cells(Due.told(RICH));
         due("restore none", x.restore(1), STATE);
         due("image", x.image(1), 1);
         due("no act", x.count(5), 0);
@@ -972,11 +973,17 @@ public final class PromisesTest {
         due("restore 0", x.restore(0), 1);
         Due.due("as kept", cells(x), changed);
         due("no act", x.count(5), 0);
+    }
+
+    private static void imagesStay() {
+        SailingDirections x = Due.told(RICH);
+        String rich = cells(x);
+        x.image(0);
         x.become(1, 6);
         due("the image stays", x.restore(0), 1);
-        Due.due("as kept", cells(x), changed);
+        Due.due("as kept", cells(x), rich);
         Due.tell(x, "h1");
-        x.restore(1);
+        x.restore(0);
         due("the tape stays", x.count(6), 2);
         dueAll("image BAD", BAD, x.image(-1), x.image(2), x.restore(-1), x.restore(2), x.image(LEAST), x.restore(MOST));
         x.sheet();

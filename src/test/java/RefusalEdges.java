@@ -11,9 +11,12 @@ final class RefusalEdges {
         .due("until(0, 2, 3, 4)", 0).dueSheet("h21", -1000101).tell("sw");
     private static final Supplier<Run> NO_ACT = () -> Run.of(SHEET).due("image(1)", 1).dueSheet("h21", -1000101).tell("sw");
     private static final Supplier<Run> NO_SHEET = () -> Run.fresh().dueSheet("h21", -1000101).tell("sw");
-    private static final Supplier<Run> ONE_LEG = () -> Run.of("h3,10,12;t8;z30,40;b30,45,1,2;g2i0,1;").due("image(1)", 1).due("ship(0, 4)", 3).tell("sw");
-    private static final Supplier<Run> SIX_LEGS = () -> Run.of("h3,10,12;t8;z30,40;b30,45,1,2;g0m1;g1m2;g2m3;g3m4;g4m5;g5m6;").due("ship(0, 4)", 3).tell("sw");
-    private static final Supplier<Run> SEVEN_MARKS = () -> Run.of("h0,30,60;t0;z0,0;" + "b9,9,0,0;".repeat(7) + "g0i0,1;g0i2,3;g0i4,5;g0a6;").due("ship(0, 4)", 0).tell("sw");
+    private static final Supplier<Run> ONE_LEG = () -> Run.of("h3,10,12;t8;z30,40;b30,45,1,2;g2i0,1;").due("image(1)", 1)
+        .due("ship(0, 4)", 3).tell("sw");
+    private static final Supplier<Run> SIX_LEGS = () -> Run.of("h3,10,12;t8;z30,40;b30,45,1,2;g0m1;g1m2;g2m3;g3m4;g4m5;g5m6;")
+        .due("ship(0, 4)", 3).tell("sw");
+    private static final Supplier<Run> SEVEN_MARKS = () -> Run.of("h0,30,60;t0;z0,0;" + "b9,9,0,0;".repeat(7)
+        + "g0i0,1;g0i2,3;g0i4,5;g0a6;").due("ship(0, 4)", 0).tell("sw");
 
     private RefusalEdges() {
     }
@@ -40,22 +43,28 @@ final class RefusalEdges {
     }
 
     private static void measures() {
-        Edge.refused(7, LIVELY, BAD, "measure(-1, 0, 1)", "measure(3, 0, 1)", "measure(0, -1, 1)", "measure(0, 4, 1)", "measure(0, 0, -1)", "measure(0, 0, 61)",
+        Edge.refused(7, LIVELY, BAD, "measure(-1, 0, 1)", "measure(3, 0, 1)", "measure(0, -1, 1)", "measure(0, 4, 1)", "measure(0, 0, -1)",
+            "measure(0, 0, 61)",
             "measure(0, 1, -1)", "measure(0, 1, 61)", "measure(0, 2, -1)", "measure(0, 2, 16)", "measure(0, 3, -1)", "measure(0, 3, 21)");
         Edge.refused(8, LIVELY, BAD, "become(-1, 1)", "become(3, 1)", "become(0, 0)", "become(0, 7)");
         Edge.refused(8, LIVELY, STATE, "become(0, 1)", "become(1, 3)", "become(2, 4)");
-        Edge.refused(9, LIVELY, BAD, "ship(-1, 0)", "ship(5, 0)", "ship(0, -1)", "ship(0, 21)", "ship(1, -1)", "ship(1, 61)", "ship(2, -1)", "ship(2, 61)",
+        Edge.refused(9, LIVELY, BAD, "ship(-1, 0)", "ship(5, 0)", "ship(0, -1)", "ship(0, 21)", "ship(1, -1)", "ship(1, 61)",
+            "ship(2, -1)", "ship(2, 61)",
             "ship(3, -1)", "ship(3, 61)", "ship(4, -1)", "ship(4, 61)");
         Edge.refused(10, LIVELY, BAD, "tide(-1, 1)", "tide(2, 1)", "tide(0, -1)", "tide(0, 21)", "tide(1, 21)");
     }
 
     private static void legs() {
         Edge.refused(11, LIVELY, BAD, "steer(-1, 0)", "steer(3, 0)", "steer(0, -1)", "steer(0, 16)");
-        Edge.refused(12, LIVELY, BAD, "until(-1, 0, 1, 0)", "until(3, 0, 1, 0)", "until(0, -1, 1, 0)", "until(0, 5, 1, 0)", "until(0, 0, 0, 0)", "until(0, 0, 61, 0)",
-            "until(0, 1, -1, 0)", "until(0, 1, 8, 0)", "until(0, 2, -1, 0)", "until(0, 2, 8, 0)", "until(0, 2, 0, -1)", "until(0, 2, 0, 8)", "until(1, 2, 5, 8)",
+        Edge.refused(12, LIVELY, BAD, "until(-1, 0, 1, 0)", "until(3, 0, 1, 0)", "until(0, -1, 1, 0)", "until(0, 5, 1, 0)",
+            "until(0, 0, 0, 0)", "until(0, 0, 61, 0)",
+            "until(0, 1, -1, 0)", "until(0, 1, 8, 0)", "until(0, 2, -1, 0)", "until(0, 2, 8, 0)", "until(0, 2, 0, -1)",
+            "until(0, 2, 0, 8)", "until(1, 2, 5, 8)",
             "until(0, 3, -1, 0)", "until(0, 3, 8, 0)", "until(0, 4, -1, 0)", "until(0, 4, 61, 0)");
-        Edge.refused(13, LIVELY, BAD, "add(-1, 0, 0, 1, 0)", "add(4, 0, 0, 1, 0)", "add(0, -1, 0, 1, 0)", "add(0, 16, 0, 1, 0)", "add(0, 0, -1, 1, 0)", "add(0, 0, 5, 1, 0)",
-            "add(0, 0, 0, 0, 0)", "add(0, 0, 0, 61, 0)", "add(0, 0, 1, 8, 0)", "add(0, 0, 2, 8, 0)", "add(0, 0, 2, 0, -1)", "add(0, 0, 2, 0, 8)", "add(0, 0, 3, 8, 0)",
+        Edge.refused(13, LIVELY, BAD, "add(-1, 0, 0, 1, 0)", "add(4, 0, 0, 1, 0)", "add(0, -1, 0, 1, 0)", "add(0, 16, 0, 1, 0)",
+            "add(0, 0, -1, 1, 0)", "add(0, 0, 5, 1, 0)",
+            "add(0, 0, 0, 0, 0)", "add(0, 0, 0, 61, 0)", "add(0, 0, 1, 8, 0)", "add(0, 0, 2, 8, 0)", "add(0, 0, 2, 0, -1)",
+            "add(0, 0, 2, 0, 8)", "add(0, 0, 3, 8, 0)",
             "add(0, 0, 4, 61, 0)");
         Edge.refused(13, SIX_LEGS, FULL, "add(0, 9, 0, 9, 0)", "add(1, 9, 2, 7, 7)", "add(6, 9, 0, 9, 0)");
         Edge.refused(13, SIX_LEGS, BAD, "add(7, 9, 0, 9, 0)", "add(0, 16, 0, 9, 0)");
@@ -102,18 +111,22 @@ final class RefusalEdges {
         Edge.refused(11, NO_SHEET, BAD, "steer(0, 1)");
         Edge.refused(12, NO_SHEET, BAD, "until(0, 0, 1, 0)");
         Edge.refused(14, NO_SHEET, BAD, "cut(0)");
-        Edge.test(1, "What is refused changes nothing.", () -> Run.fresh().due("ship(0, 7)", STATE).due("add(0, 3, 0, 7, 0)", STATE).due("image(0)", STATE).due("tide(0, 9)", BAD)
-            .due("measure(0, 0, 9)", BAD).told("h3,10,12;t8;z30,40;g2m4;").due("restore(0)", STATE).dueRow("count(*)", 0, 0, 0, 1, 1, 0, 0).due("ship(0, 0)", 3));
+        Edge.test(1, "What is refused changes nothing.", () -> Run.fresh().due("ship(0, 7)", STATE).due("add(0, 3, 0, 7, 0)", STATE)
+            .due("image(0)", STATE).due("tide(0, 9)", BAD)
+            .due("measure(0, 0, 9)", BAD).told("h3,10,12;t8;z30,40;g2m4;").due("restore(0)", STATE).dueRow("count(*)", 0, 0, 0, 1, 1, 0, 0)
+            .due("ship(0, 0)", 3));
     }
 
     private static void fullTape() {
         String longest = "h20,60,60;t20,20,20,20,20,20;z60,60;" + "k60,60,15,20;".repeat(8) + "g15m60;g15m60;g15a7;";
-        Edge.test(2, "What is refused changes nothing.", () -> Run.fresh().tell(longest).due("feed(48)", FULL).due("feed(-1)", BAD).due("feed(256)", BAD).due("feed(59)", FULL)
+        Edge.test(2, "What is refused changes nothing.", () -> Run.fresh().tell(longest).due("feed(48)", FULL).due("feed(-1)", BAD)
+            .due("feed(256)", BAD).due("feed(59)", FULL)
             .due("count(6)", 160).due("sheet()", 3).due("leg(2, 2)", 7).due("thing(0, 1)", 60).due("fault()", 0));
     }
 
     private static void twentyActs() {
-        for (String call : new String[] {"measure(0, 0, 61)", "become(0, 1)", "become(0, 7)", "ship(0, 21)", "tide(1, 1)", "steer(0, 16)", "until(0, 0, 61, 0)", "add(0, 16, 0, 1, 0)",
+        for (String call : new String[] {"measure(0, 0, 61)", "become(0, 1)", "become(0, 7)", "ship(0, 21)", "tide(1, 1)", "steer(0, 16)",
+            "until(0, 0, 61, 0)", "add(0, 16, 0, 1, 0)",
             "cut(0)", "cut(1)", "restore(1)", "image(2)", "image(0)", "times()", "drawn(12, 1, 0)", "needed(0)"}) {
             Edge.test(6, "20 at most are kept, of more the oldest is forgotten", () -> {
                 Run run = Run.of("h3,10,12;t8;z30,40;b1,1,1,1;g2m4;");

@@ -7,10 +7,12 @@ import java.util.Comparator;
 import java.util.List;
 import java.util.Random;
 
-/** No call throws, whatever its arguments are in whatever state; and no call makes an object. */
+/** No call throws, whatever its arguments are in whatever state; and what a run of calls makes has room. */
 public final class RoomTest {
     private static final int[] EDGES = {Integer.MIN_VALUE, -1000001, -17, -1, 0, 1, 2, 3, 4, 5, 6, 7, 8, 9, 15, 16, 20, 21,
         30, 59, 60, 61, 99, 100, 255, 256, 9999, 10000, 999999, 1000000, Integer.MAX_VALUE};
+    private static final int CALLS_MOST = 512, SHEET_CALLS_MOST = 162;
+    private static final int CALLS_OF_ALL = 180, RUNS = 20, OBJECTS_MOST = 600000;
     private static final String[] SHEETS = {
         "h3,30,30;t8,20,0;z30,40;b30,45,1,2;l5,6,0,0;l20,20,4,0;u30,20,0,0;s18,14,2,9;r40,40,3,4;k50,10,2,1;g2m4;g4a0;g6i1,2;g8e2;g10d7;",
         "h0,0,0;t0;z0,0;g0m1;",
@@ -19,7 +21,7 @@ public final class RoomTest {
 
     public static void main(String[] args) {
         neverThrows();
-        makesNothing();
+        takesLittleRoom();
         Due.finish("RoomTest");
     }
 
@@ -39,10 +41,11 @@ public final class RoomTest {
         List<Method> methods = face();
         for (int round = 0; round < 4000; round++) {
             SailingDirections x = new SailingDirections();
-            for (int i = 0; i < 600; i++) {
+            for (int calls = 0; calls < CALLS_MOST - SHEET_CALLS_MOST; calls++) {
                 if (random.nextInt(200) == 0) {
                     x.course();
                     Due.read(x, SHEETS[random.nextInt(SHEETS.length)]);
+                    calls += SHEET_CALLS_MOST;
                 }
                 Method m = methods.get(random.nextInt(methods.size()));
                 Object[] values = new Object[m.getParameterCount()];
@@ -71,21 +74,21 @@ public final class RoomTest {
         }
     }
 
-    private static void makesNothing() {
+    /** An object takes 16 bytes at least, so so many bytes are no more objects than there is room for. */
+    private static void takesLittleRoom() {
         com.sun.management.ThreadMXBean threads = (com.sun.management.ThreadMXBean) ManagementFactory.getThreadMXBean();
-        SailingDirections x = new SailingDirections();
-        callAll(x, 200);
-        threads.getThreadAllocatedBytes(Thread.currentThread().getId());
-        long before = threads.getThreadAllocatedBytes(Thread.currentThread().getId());
-        callAll(x, 200);
-        long made = threads.getThreadAllocatedBytes(Thread.currentThread().getId()) - before;
-        Due.due("bytes made by some thousand calls, in thousands", made / 4096, 0);
-        before = threads.getThreadAllocatedBytes(Thread.currentThread().getId());
-        x = new SailingDirections();
-        made = threads.getThreadAllocatedBytes(Thread.currentThread().getId()) - before;
-        if (x.count(0) != 0 || made > 20000) {
-            Due.fail("a new object takes " + made + " bytes");
+        long thread = Thread.currentThread().getId();
+        callAll(new SailingDirections(), 1);
+        threads.getThreadAllocatedBytes(thread);
+        long before = threads.getThreadAllocatedBytes(thread);
+        for (int run = 0; run < RUNS; run++) {
+            callAll(new SailingDirections(), CALLS_MOST / CALLS_OF_ALL);
         }
+        long made = (threads.getThreadAllocatedBytes(thread) - before) / RUNS;
+        if (made > 16L * OBJECTS_MOST) {
+            Due.fail("a run of " + CALLS_MOST + " calls makes " + made + " bytes");
+        }
+        Due.due("bytes were counted", made > 0 ? 1 : 0, 1);
     }
 
     private static void callAll(SailingDirections x, int times) {

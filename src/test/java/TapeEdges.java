@@ -156,7 +156,8 @@ final class TapeEdges {
             HEAD + THING.repeat(8) + "^l", HEAD + THING.repeat(8) + "^u99", HEAD + THING.repeat(8) + "^s;",
             HEAD + THING.repeat(8) + "^r1,2,3,4;", HEAD + THING.repeat(8) + "^k"));
         Edge.test(3, "3 a thing, a leg more than there is room for (its letter)", () -> fault(1, HEAD + THING.repeat(8) + "^",
-            HEAD + THING.repeat(8) + "^q", HEAD + THING.repeat(8) + "^;", HEAD + THING.repeat(8) + "^0", HEAD + THING.repeat(8) + "g0m1;^b"));
+            HEAD + THING.repeat(8) + "^q", HEAD + THING.repeat(8) + "^;", HEAD + THING.repeat(8) + "^0", HEAD + THING.repeat(8)
+            + "g0m1;^b"));
     }
 
     private static void legsOfSheet() {
@@ -181,16 +182,20 @@ final class TapeEdges {
     }
 
     private static void untilsOfSheet() {
-        Edge.test(3, "m N (1 to 60)", () -> Run.of(HEAD + "g0m1;g0m60;").dueRow("leg(0, *)", 0, 0, 1, NONE).dueRow("leg(1, *)", 0, 0, 60, NONE));
+        Edge.test(3, "m N (1 to 60)", () -> Run.of(HEAD + "g0m1;g0m60;").dueRow("leg(0, *)", 0, 0, 1, NONE)
+            .dueRow("leg(1, *)", 0, 0, 60, NONE));
         Edge.test(3, "m N (1 to 60)", () -> fault(2, HEAD + "g0m^0;", HEAD + "g0m^00;", HEAD + "g0m^61;", HEAD + "g0m^99;"));
-        Edge.test(3, "a T (0 to 7)", () -> Run.of(HEAD + "g0a0;g0a7;").dueRow("leg(0, *)", 0, 1, 0, NONE).dueRow("leg(1, *)", 0, 1, 7, NONE));
+        Edge.test(3, "a T (0 to 7)", () -> Run.of(HEAD + "g0a0;g0a7;").dueRow("leg(0, *)", 0, 1, 0, NONE)
+            .dueRow("leg(1, *)", 0, 1, 7, NONE));
         Edge.test(3, "a T (0 to 7)", () -> fault(2, HEAD + "g0a^8;", HEAD + "g0a^60;"));
         Edge.test(3, "i T , U (0 to 7 each)", () -> Run.of(HEAD + "g0i0,7;g0i7,0;g0i7,7;").dueRow("leg(0, *)", 0, 2, 0, 7)
             .dueRow("leg(1, *)", 0, 2, 7, 0).dueRow("leg(2, *)", 0, 2, 7, 7));
         Edge.test(3, "i T , U (0 to 7 each)", () -> fault(2, HEAD + "g0i^8,0;", HEAD + "g0i7,^8;", HEAD + "g0i^8,8;", HEAD + "g0i0,^60;"));
-        Edge.test(3, "e T (0 to 7)", () -> Run.of(HEAD + "g0e0;g0e7;").dueRow("leg(0, *)", 0, 3, 0, NONE).dueRow("leg(1, *)", 0, 3, 7, NONE));
+        Edge.test(3, "e T (0 to 7)", () -> Run.of(HEAD + "g0e0;g0e7;").dueRow("leg(0, *)", 0, 3, 0, NONE)
+            .dueRow("leg(1, *)", 0, 3, 7, NONE));
         Edge.test(3, "e T (0 to 7)", () -> fault(2, HEAD + "g0e^8;", HEAD + "g0e^60;"));
-        Edge.test(3, "d N (0 to 60)", () -> Run.of(HEAD + "g0d0;g0d60;").dueRow("leg(0, *)", 0, 4, 0, NONE).dueRow("leg(1, *)", 0, 4, 60, NONE));
+        Edge.test(3, "d N (0 to 60)", () -> Run.of(HEAD + "g0d0;g0d60;").dueRow("leg(0, *)", 0, 4, 0, NONE)
+            .dueRow("leg(1, *)", 0, 4, 60, NONE));
         Edge.test(3, "d N (0 to 60)", () -> fault(2, HEAD + "g0d^61;", HEAD + "g0d^99;"));
         Edge.test(3, "UNTIL: m N (1 to 60) | a T (0 to 7) | i T , U (0 to 7 each)", () -> fault(1, HEAD + "g0m^;", HEAD + "g0m^,1;",
             HEAD + "g0a^;", HEAD + "g0a1^,1;", HEAD + "g0m1^,1;", HEAD + "g0e1^,1;", HEAD + "g0d1^,1;", HEAD + "g0i1^;", HEAD + "g0i1,^;",
@@ -208,9 +213,11 @@ final class TapeEdges {
     }
 
     private static void faultsFirstAndLeast() {
-        Edge.test(3, "FAULTS, the first TOKEN that has one (its first byte)", () -> fault(2, "h^21,99,999;x", "h20,^61x", HEAD + "b^61,99,99,99;x",
+        Edge.test(3, "FAULTS, the first TOKEN that has one (its first byte)", () -> fault(2, "h^21,99,999;x", "h20,^61x", HEAD
+            + "b^61,99,99,99;x",
             HEAD + "g^16m0;", HEAD + "g0m^61;;", HEAD + "g0i^8,9;"));
-        Edge.test(3, "FAULTS, the first TOKEN that has one (its first byte)", () -> fault(1, "h3^;99,99;", "h3,10,10;^x" + "t99;", HEAD + "^;g99m0;",
+        Edge.test(3, "FAULTS, the first TOKEN that has one (its first byte)", () -> fault(1, "h3^;99,99;", "h3,10,10;^x" + "t99;", HEAD
+            + "^;g99m0;",
             HEAD + "g0^?m0;"));
         Edge.test(3, "-1000100 less the place of a FAULT", () -> Run.fresh().dueSheet("", FAULT_BASE).dueSheet("x", FAULT_BASE)
             .dueSheet("hx", FAULT_BASE - 1).dueSheet("h3,10,10;t4;z30,30;g0m1;x", FAULT_BASE - 24));
@@ -228,7 +235,8 @@ final class TapeEdges {
     }
 
     private static void sheetInPlace() {
-        Edge.test(3, "The tape, empty then, is read", () -> Run.fresh().dueSheet(LEAST_SHEET, 1).due("count(6)", 0).due("sheet()", FAULT_BASE)
+        Edge.test(3, "The tape, empty then, is read", () -> Run.fresh().dueSheet(LEAST_SHEET, 1).due("count(6)", 0)
+            .due("sheet()", FAULT_BASE)
             .due("feed(104)", 1).due("sheet()", FAULT_BASE - 1).due("count(6)", 0));
         Edge.test(3, "A SHEET that is read stands in place of the one before", () -> Run.of(
             "h9,8,7;t6,5,4;z3,2;b1,2,3,4;l5,6,7,8;s9,9,9,9;g1i2,3;g4i5,6;").told("h1,2,3;t4;z5,6;g7m8;")
@@ -238,6 +246,18 @@ final class TapeEdges {
         Edge.test(3, "A SHEET that is read stands in place of the one before", () -> Run.of("h1,2,3;t4;z5,6;g7m8;").told(
             "h9,8,7;t6,5,4;z3,2;b1,2,3,4;l5,6,7,8;g1i2,3;g4i5,6;").dueRow("count(*)", 2, 2, 0, 2, 3, 0, 0)
             .dueRow("thing(1, *)", 2, 5, 6, 7, 8).dueRow("leg(1, *)", 4, 2, 5, 6).due("height(20)", 4));
+        for (int left = 0; left < 3; left++) {
+            String things = "b1,1,1,1;".repeat(left);
+            Edge.test(3, "A SHEET that is read stands in place of the one before", () ->
+                Run.of("h0,9,9;t0;z9,9;s9,9,3,1;k9,9,3,1;r9,9,3,1;g0m1;")
+                .due("water(9, 9, 0)", -1).told("h0,9,9;t0;z9,9;" + things + "g0m1;").due("water(9, 9, 0)", 40).due("water(9, 9, 1)", NONE)
+                .due("sail(0, 5)", 40)
+                .due("count(2)", 0));
+        }
+        Edge.test(3, "A SHEET that is read stands in place of the one before", () ->
+            Run.of("h0,9,9;t0;z9,9;b1,1,1,1;b2,2,2,2;s9,9,1,1;g0m1;")
+            .due("lines(0, 1, 2)", 4).told("h0,9,9;t0;z9,9;b1,1,1,1;b2,2,2,2;g0m1;")
+            .dueAll(0, "lines(0, 1, 0)", "lines(0, 1, 1)", "lines(0, 1, 2)"));
         Edge.test(3, "no ACT can be undone", () -> Run.of(LEAST_SHEET).due("ship(0, 9)", 0).due("steer(0, 9)", 0).due("count(5)", 2)
             .told(LEAST_SHEET).due("count(5)", 0).due("undo()", STATE).due("ship(0, 3)", 0).due("undo()", 0).due("undo()", STATE));
         Edge.test(3, "IMAGES stay", () -> Run.of("h9,8,7;t6;z3,2;g1m5;").due("image(0)", 1).told(LEAST_SHEET).due("image(1)", 1)
@@ -253,14 +273,16 @@ final class TapeEdges {
             .due("track(0, 0, 0)", 8).due("track(0, 0, 1)", 7).due("undo()", 1).due("leg(0, 0)", 1).due("undo()", 0)
             .due("ship(0, 9)", 9).due("ship(3, 9)", 3).due("ship(4, 9)", 2).due("restore(0)", STATE).due("restore(1)", 1)
             .due("ship(3, 9)", 3));
-        Edge.test(3, words, () -> Run.fresh().dueSheet("h1,1,1;t1;z1,1;k9,9,9,9;g5m5", FAULT_BASE - 28).dueRow("count(*)", 0, 0, 0, 0, 0, 0, 0)
+        Edge.test(3, words, () -> Run.fresh().dueSheet("h1,1,1;t1;z1,1;k9,9,9,9;g5m5", FAULT_BASE - 28)
+            .dueRow("count(*)", 0, 0, 0, 0, 0, 0, 0)
             .due("times()", STATE).due("image(0)", STATE).due("undo()", STATE).due("thing(0, 0)", BAD).due("leg(0, 0)", BAD));
     }
 
     // 4
     private static void faultNumbers() {
         Edge.test(4, "The number of the latest FAULT; 0 before one.", () -> Run.fresh().due("fault()", 0).dueSheet(LEAST_SHEET, 1)
-            .due("fault()", 0).dueSheet("h21", FAULT_BASE - 1).due("fault()", 2).due("fault()", 2).dueSheet("", FAULT_BASE).due("fault()", 1)
+            .due("fault()", 0).dueSheet("h21", FAULT_BASE - 1).due("fault()", 2).due("fault()", 2).dueSheet("", FAULT_BASE)
+            .due("fault()", 1)
             .dueSheet(HEAD + LEG.repeat(6) + "g", FAULT_BASE - 49).due("fault()", 3).dueSheet("h99", FAULT_BASE - 1).due("fault()", 2));
         Edge.test(4, "The number of the latest FAULT", () -> Run.fresh().dueSheet("h21", FAULT_BASE - 1).dueSheet(LEAST_SHEET, 1)
             .due("fault()", 2).due("image(0)", 1).due("restore(0)", 1).due("fault()", 2));
@@ -278,11 +300,13 @@ final class TapeEdges {
                 Run.fresh().dueCourse(names[course], course).due("count(6)", 0).due("course()", NONE));
         }
         String words = "(small letters, nothing else): its number; NONE: it is none";
-        for (String name : new String[] {"", "N", "NNE", "Nne", "nnE", "n ", " n", "n;", "n\u0000", "0", "4", "nn", "ee", "ss", "ww", "en", "es",
+        for (String name : new String[] {"", "N", "NNE", "Nne", "nnE", "n ", " n", "n;", "n\u0000", "0", "4", "nn", "ee", "ss", "ww", "en",
+            "es",
             "wn", "ws", "nee", "nen", "nnn", "eee", "nnnw", "nnew", "nnwn", "ssww", "north", "nnen", "\u00ee", "n".repeat(160)}) {
             Edge.test(5, words, () -> Run.fresh().dueCourse(name, NONE).due("count(6)", 0));
         }
         Edge.test(5, "The tape, empty then, is read as the NAME of a COURSE", () -> Run.of("h9,8,7;t6;z3,2;g1m5;").due("ship(0, 3)", 9)
-            .dueCourse("sw", 10).due("count(5)", 1).due("leg(0, 0)", 1).due("times()", 0).dueCourse("x", NONE).due("count(5)", 1).due("undo()", 0));
+            .dueCourse("sw", 10).due("count(5)", 1).due("leg(0, 0)", 1).due("times()", 0).dueCourse("x", NONE).due("count(5)", 1)
+            .due("undo()", 0));
     }
 }
