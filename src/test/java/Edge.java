@@ -1,13 +1,17 @@
 import java.io.IOException;
 import java.nio.file.Files;
 import java.nio.file.Path;
+import java.util.Arrays;
 import java.util.function.Supplier;
 
-/** One test for each sentence of the document that names a boundary case, told by its promise and its words. */
+/** One test at least for each sentence of the document's terms and promises, told by its promise and its words. */
 final class Edge {
     private static final int PROMISES = 36;
     private static final String DOCUMENT = document();
     private static final int[] TESTS = new int[PROMISES + 1];
+    private static final boolean[] IS_QUOTED = new boolean[DOCUMENT.length()];
+    /** Words that only join two sentences ("; or", "that by") need no test of their own. */
+    private static final int JOINING_WORDS_MOST = 2;
     private static String label = "";
 
     private Edge() {
@@ -36,12 +40,19 @@ final class Edge {
         if (!DOCUMENT.contains(words)) {
             Due.fail(label + "the document does not say so");
         }
+        quote(words);
         try {
             checks.run();
         } catch (RuntimeException e) {
             Due.fail(label + e);
         }
         label = "";
+    }
+
+    private static void quote(String words) {
+        for (int at = DOCUMENT.indexOf(words); at >= 0; at = DOCUMENT.indexOf(words, at + 1)) {
+            Arrays.fill(IS_QUOTED, at, at + words.length(), true);
+        }
     }
 
     /** A call that is refused leaves an object such that all later calls answer as on one that never had it. */
@@ -71,5 +82,25 @@ final class Edge {
                 Due.fail("no test of a sentence of promise " + promise);
             }
         }
+        Due.due("sentences of the document without a test", unquoted(), "");
+    }
+
+    /** What no test quotes of the terms and of the promises, but for heads, calls and what only joins. */
+    private static String unquoted() {
+        StringBuilder left = new StringBuilder();
+        int end = DOCUMENT.indexOf("## Not promised");
+        for (int i = DOCUMENT.indexOf("## Terms"); i < end; i++) {
+            left.append(IS_QUOTED[i] ? '\n' : DOCUMENT.charAt(i));
+        }
+        String plain = left.toString().replaceAll("Ahead of the calls [^.]*the interface says: ---- [a-z ]*\\.", "\n")
+            .replaceAll("## Promise \\d+: [^`]*`[^`]*`:", "\n").replaceAll("## Terms|======== \\d|```(text)?", "\n");
+        StringBuilder found = new StringBuilder();
+        for (String stretch : plain.split("\n")) {
+            String words = stretch.replaceAll("[^A-Za-z0-9]+", " ").trim();
+            if (words.split(" ").length > JOINING_WORDS_MOST) {
+                found.append('[').append(stretch.trim()).append(']');
+            }
+        }
+        return found.toString();
     }
 }

@@ -1,4 +1,4 @@
-/** Each sentence of the document that names a boundary case, by a test of its own. */
+/** Each sentence of the document's terms and promises by a test of its own; of boundary cases by many. */
 public final class EdgesTest {
     public static void main(String[] args) {
         all();
@@ -12,6 +12,7 @@ public final class EdgesTest {
         VoyageEdges.all();
         ForetoldEdges.all();
         RefusalEdges.all();
+        TermEdges.all();
         Edge.finish();
     }
 }
