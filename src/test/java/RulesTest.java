@@ -61,6 +61,7 @@ public final class RulesTest {
 
     public static void main(String[] args) throws IOException {
         face();
+        heads();
         source();
         Due.finish("RulesTest");
     }
@@ -103,6 +104,27 @@ public final class RulesTest {
         Constructor<?>[] constructors = SailingDirections.class.getDeclaredConstructors();
         Due.due("constructors", constructors.length, 1);
         Due.due("its parameters", constructors[0].getParameterCount(), 0);
+    }
+
+    /** Ahead of the calls that the document names together stands what it says there, and the calls stand in its order. */
+    private static void heads() throws IOException {
+        String source = Files.readString(Path.of(SOURCE));
+        Matcher told = Pattern.compile("^Ahead of the calls (.*) the interface says: (---- .*)\\.$", Pattern.MULTILINE)
+            .matcher(Files.readString(Path.of("../shared/DOC.md")));
+        int from = 0;
+        int heads = 0;
+        for (; told.find(); heads++) {
+            int head = source.indexOf("    // " + told.group(2) + "\n", from);
+            Due.due("the head " + told.group(2), head >= from ? 1 : 0, 1);
+            from = Math.max(from, head);
+            for (String call : told.group(1).replaceAll("[`,]", "").split(" ")) {
+                Matcher face = Pattern.compile("^    public (int|long) " + call + "\\(", Pattern.MULTILINE).matcher(source);
+                boolean isThere = face.find(from);
+                Due.due(call + " behind " + told.group(2), isThere ? 1 : 0, 1);
+                from = isThere ? face.start() + 1 : from;
+            }
+        }
+        Due.due("heads", heads, 5);
     }
 
     private static void duePrivate(Member member) {
